@@ -59,7 +59,7 @@ public final class LearnedRanker {
         if (!shelf.holds(d)) {
             return REFUSED;
         }
-        shelf.take(d);
+        shelf.drop(d);
         return DONE;
     }
 
@@ -112,7 +112,7 @@ public final class LearnedRanker {
                 grower.grow(forest.nextTree(), height, least);
             }
         }
-        return forest.nodesOfKind(true);
+        return forest.leaves();
     }
 
     public int feature(int q, int d, int f) {
@@ -203,7 +203,7 @@ public final class LearnedRanker {
             case 4:
                 return cutOff;
             case 5:
-                return forest.nodesOfKind(false);
+                return forest.splits();
             case 1000:
                 return shelf.sumOfSizes();
             case 10000:
@@ -294,7 +294,7 @@ public final class LearnedRanker {
             Arrays.fill(counts[d], 0);
         }
 
-        void take(int d) {
+        void drop(int d) {
             there[d] = false;
         }
 
@@ -477,6 +477,26 @@ public final class LearnedRanker {
             return features[n] >= 0;
         }
 
+        int leaves() {
+            int number = 0;
+            for (int n = 0; n < NODES; n++) {
+                if (isLeaf(n)) {
+                    number++;
+                }
+            }
+            return number;
+        }
+
+        int splits() {
+            int number = 0;
+            for (int n = 0; n < NODES; n++) {
+                if (isSplit(n)) {
+                    number++;
+                }
+            }
+            return number;
+        }
+
         int featureAt(int n) {
             return features[n];
         }
@@ -534,15 +554,18 @@ public final class LearnedRanker {
             return tree;
         }
 
-        /** How many leaves, or else splits, all trees have. */
-        int nodesOfKind(boolean leaves) {
+        int leaves() {
             int number = 0;
             for (int t = 0; t < size; t++) {
-                for (int n = 0; n < NODES; n++) {
-                    if (leaves ? trees[t].isLeaf(n) : trees[t].isSplit(n)) {
-                        number++;
-                    }
-                }
+                number += trees[t].leaves();
+            }
+            return number;
+        }
+
+        int splits() {
+            int number = 0;
+            for (int t = 0; t < size; t++) {
+                number += trees[t].splits();
             }
             return number;
         }
@@ -654,6 +677,7 @@ public final class LearnedRanker {
         private void walkThresholds(int n, int f) {
             long firstSum = 0;
             int firstNumber = 0;
+            // No feature is below 0; if none is 0 either, the first part is empty and never good.
             int threshold = 0;
             for (int i = 0; i < samples; i++) {
                 int s = orders[f][i];

@@ -10,6 +10,7 @@ public final class JudgementsTest {
         judgeFull();
         judgementsByNumber();
         depthEdges();
+        liveOnes();
         counts();
         Due.end();
     }
@@ -134,6 +135,22 @@ public final class JudgementsTest {
         Due.is("it is 16", x.count(4), 16);
         Due.is("depth(1)", x.depth(1), 0);
         Due.is("it is 1", x.count(4), 1);
+    }
+
+    private static void liveOnes() {
+        LearnedRanker x = new LearnedRanker();
+        x.judge(0, 0, 0);
+        x.judge(7, 0, 1);
+        x.judge(7, 15, 2);
+        Due.is("no document is there", x.count(2), 0);
+        x.document(0, 0);
+        Due.is("document 0 is there", x.count(2), 2);
+        x.document(15, 0);
+        Due.is("document 15 too", x.count(2), 3);
+        x.remove(0);
+        Due.is("document 0 no more", x.count(2), 1);
+        x.judge(7, 15, -1);
+        Due.is("its judgement no more", x.count(2), 0);
     }
 
     private static void counts() {

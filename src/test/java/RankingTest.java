@@ -7,6 +7,7 @@ public final class RankingTest {
     public static void main(String[] args) {
         candidatesByPlainScore();
         equalPlainScores();
+        weightsOfThePlainScore();
         negativePlainScore();
         cutOffAfterDepth();
         rankingByScore();
@@ -63,6 +64,18 @@ public final class RankingTest {
         put(x, 7, 0, 4, 0, 4);
         put(x, 8, 0, 2, 2, 8);
         dueOrder("equal by 4 * FEATURE 0 and SIZE", x, 0, false, 5, 3, 9, 12, 7, 8);
+    }
+
+    /** All five have a PLAIN SCORE of 34; any other weight would bring a later one to the front. */
+    private static void weightsOfThePlainScore() {
+        LearnedRanker x = new LearnedRanker();
+        x.query(0, 0b11);
+        put(x, 0, 0, 1, 1, 4);
+        put(x, 1, 0, 2);
+        put(x, 2, 0, 1, 1, 4);
+        put(x, 3, 0, 3, 0, 15);
+        put(x, 4, 0, 2);
+        dueOrder("five of 34", x, 0, false, 0, 1, 2, 3, 4);
     }
 
     private static void negativePlainScore() {
