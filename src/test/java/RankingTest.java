@@ -21,83 +21,69 @@ public final class RankingTest {
         Due.end();
     }
 
-    private static void put(LearnedRanker x, int d, int quality, int... counts) {
-        x.document(d, quality);
-        for (int t = 0; t < counts.length; t++) {
-            x.term(d, t, counts[t]);
-        }
-    }
-
-    private static void dueOrder(String name, LearnedRanker x, int q, boolean learned, int... due) {
-        for (int i = 0; i < due.length; i++) {
-            Due.is(name + ", place " + i, x.ranked(q, i, learned), due[i]);
-        }
-        Due.is(name + ", no place " + due.length, x.ranked(q, due.length, learned), -1);
-    }
-
     private static void candidatesByPlainScore() {
         LearnedRanker x = new LearnedRanker();
         x.query(2, 0b11);
-        put(x, 0, 15, 2, 0, 5);
-        put(x, 1, 0, 1, 1);
-        put(x, 2, 0, 2);
-        put(x, 3, 0, 0, 0, 15);
-        put(x, 4, 0, 3, 0, 15, 15, 15);
+        Make.put(x, 0, 15, 2, 0, 5);
+        Make.put(x, 1, 0, 1, 1);
+        Make.put(x, 2, 0, 2);
+        Make.put(x, 3, 0, 0, 0, 15);
+        Make.put(x, 4, 0, 3, 0, 15, 15, 15);
         x.document(5, 15);
-        dueOrder("by falling PLAIN SCORE", x, 2, false, 1, 2, 0, 4);
-        dueOrder("without trees THE RANKING is the same", x, 2, true, 1, 2, 0, 4);
-        dueOrder("an empty query has none", x, 3, false);
+        Due.order("by falling PLAIN SCORE", x, 2, false, 1, 2, 0, 4);
+        Due.order("without trees THE RANKING is the same", x, 2, true, 1, 2, 0, 4);
+        Due.order("an empty query has none", x, 3, false);
         x.remove(2);
-        dueOrder("a removed document", x, 2, false, 1, 0, 4);
+        Due.order("a removed document", x, 2, false, 1, 0, 4);
         x.query(2, 0b100);
-        dueOrder("another query", x, 2, false, 3, 4, 0);
+        Due.order("another query", x, 2, false, 3, 4, 0);
     }
 
     private static void equalPlainScores() {
         LearnedRanker x = new LearnedRanker();
         x.query(0, 0b11);
-        put(x, 9, 0, 4);
-        put(x, 3, 7, 0, 4);
-        put(x, 12, 3, 4);
-        put(x, 5, 1, 5);
-        dueOrder("the lesser number first", x, 0, false, 5, 3, 9, 12);
-        put(x, 7, 0, 4, 0, 4);
-        put(x, 8, 0, 2, 2, 8);
-        dueOrder("equal by 4 * FEATURE 0 and SIZE", x, 0, false, 5, 3, 9, 12, 7, 8);
+        Make.put(x, 9, 0, 4);
+        Make.put(x, 3, 7, 0, 4);
+        Make.put(x, 12, 3, 4);
+        Make.put(x, 5, 1, 5);
+        Due.order("the lesser number first", x, 0, false, 5, 3, 9, 12);
+        Make.put(x, 7, 0, 4, 0, 4);
+        Make.put(x, 8, 0, 2, 2, 8);
+        Due.order("equal by 4 * FEATURE 0 and SIZE", x, 0, false, 5, 3, 9, 12, 7, 8);
     }
 
     /** All five have a PLAIN SCORE of 34; any other weight would bring a later one to the front. */
     private static void weightsOfThePlainScore() {
         LearnedRanker x = new LearnedRanker();
         x.query(0, 0b11);
-        put(x, 0, 0, 1, 1, 4);
-        put(x, 1, 0, 2);
-        put(x, 2, 0, 1, 1, 4);
-        put(x, 3, 0, 3, 0, 15);
-        put(x, 4, 0, 2);
-        dueOrder("five of 34", x, 0, false, 0, 1, 2, 3, 4);
+        Make.put(x, 0, 0, 1, 1, 4);
+        Make.put(x, 1, 0, 2);
+        Make.put(x, 2, 0, 1, 1, 4);
+        Make.put(x, 3, 0, 3, 0, 15);
+        Make.put(x, 4, 0, 2);
+        Due.order("five of 34", x, 0, false, 0, 1, 2, 3, 4);
     }
 
     private static void negativePlainScore() {
         LearnedRanker x = new LearnedRanker();
         x.query(0, 1);
-        put(x, 4, 0, 1, 15, 15, 15, 15, 15, 15, 15, 15, 15, 15, 15);
-        put(x, 5, 0, 1, 15, 15, 15, 15, 15, 15, 15, 15, 15, 15, 14);
-        dueOrder("below 0 but candidates", x, 0, false, 5, 4);
+        Make.put(x, 4, 0, 1, 15, 15, 15, 15, 15, 15, 15, 15, 15, 15, 15);
+        Make.put(x, 5, 0, 1, 15, 15, 15, 15, 15, 15, 15, 15, 15, 15, 14);
+        Due.order("below 0 but candidates", x, 0, false, 5, 4);
     }
 
     private static void cutOffAfterDepth() {
         LearnedRanker x = new LearnedRanker();
         x.query(0, 1);
         for (int d = 0; d < 16; d++) {
-            put(x, d, 0, d < 15 ? d + 1 : 15);
+            Make.put(x, d, 0, d < 15 ? d + 1 : 15);
         }
-        dueOrder("DEPTH 8 at first", x, 0, false, 14, 15, 13, 12, 11, 10, 9, 8);
+        Due.order("DEPTH 8 at first", x, 0, false, 14, 15, 13, 12, 11, 10, 9, 8);
         x.depth(1);
-        dueOrder("DEPTH 1", x, 0, false, 14);
-        dueOrder("DEPTH 1 anew", x, 0, true, 14);
+        Due.order("DEPTH 1", x, 0, false, 14);
+        Due.order("DEPTH 1 anew", x, 0, true, 14);
         x.depth(16);
-        dueOrder("DEPTH 16", x, 0, false, 14, 15, 13, 12, 11, 10, 9, 8, 7, 6, 5, 4, 3, 2, 1, 0);
+        Due.order("DEPTH 16", x, 0, false, 14, 15, 13, 12, 11, 10, 9, 8, 7, 6, 5, 4, 3, 2, 1, 0);
     }
 
     /** Documents 0 to 3, candidates in the order 3, 2, 1, 0, whose scores are twice their quality. */
@@ -106,7 +92,7 @@ public final class RankingTest {
         x.query(0, 1);
         int[] qualities = {1, 3, 2, 0};
         for (int d = 0; d < 4; d++) {
-            put(x, d, qualities[d], d + 1);
+            Make.put(x, d, qualities[d], d + 1);
         }
         for (int d = 8; d < 12; d++) {
             x.document(d, d - 8);
@@ -118,32 +104,32 @@ public final class RankingTest {
 
     private static void rankingByScore() {
         LearnedRanker x = trained();
-        dueOrder("CANDIDATES", x, 0, false, 3, 2, 1, 0);
-        dueOrder("THE RANKING", x, 0, true, 1, 2, 0, 3);
+        Due.order("CANDIDATES", x, 0, false, 3, 2, 1, 0);
+        Due.order("THE RANKING", x, 0, true, 1, 2, 0, 3);
         x.document(3, 3);
         x.term(3, 0, 15);
-        dueOrder("of documents as they are now", x, 0, true, 3, 1, 2, 0);
+        Due.order("of documents as they are now", x, 0, true, 3, 1, 2, 0);
     }
 
     private static void equalScoresKeepTheOrder() {
         LearnedRanker x = new LearnedRanker();
         x.query(0, 1);
         for (int d = 0; d < 5; d++) {
-            put(x, d, d % 2, d + 1);
+            Make.put(x, d, d % 2, d + 1);
         }
         x.document(14, 0);
         x.document(15, 1);
         x.judge(1, 14, 1);
         x.judge(1, 15, 5);
         x.train(1, 1, 1);
-        dueOrder("those before as CANDIDATES first", x, 0, true, 3, 1, 4, 2, 0);
+        Due.order("those before as CANDIDATES first", x, 0, true, 3, 1, 4, 2, 0);
     }
 
     private static void onlyCandidatesAreRankedAnew() {
         LearnedRanker x = trained();
         x.depth(2);
-        dueOrder("two candidates", x, 0, false, 3, 2);
-        dueOrder("the same two anew", x, 0, true, 2, 3);
+        Due.order("two candidates", x, 0, false, 3, 2);
+        Due.order("the same two anew", x, 0, true, 2, 3);
     }
 
     private static void rankedRefusals() {
@@ -211,7 +197,7 @@ public final class RankingTest {
         x.depth(16);
         long due = 0;
         for (int d = 0; d < 16; d++) {
-            put(x, d, 0, 1);
+            Make.put(x, d, 0, 1);
             x.judge(0, d, 7);
             due += 127 * (UNIT >> d);
         }

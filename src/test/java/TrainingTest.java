@@ -23,36 +23,8 @@ public final class TrainingTest {
         Due.end();
     }
 
-    /** Documents 0, 1, .. with these qualities and no terms, judged for query 0 with these grades. */
-    private static LearnedRanker judged(int[] qualities, int[] grades) {
-        LearnedRanker x = new LearnedRanker();
-        for (int d = 0; d < qualities.length; d++) {
-            x.document(d, qualities[d]);
-            x.judge(0, d, grades[d]);
-        }
-        return x;
-    }
-
-    private static void dueLeaf(String name, LearnedRanker x, int t, int n, long value) {
-        Due.is(name + ": feature of leaf " + n, x.node(t, n, 0), -1);
-        Due.is(name + ": threshold of leaf " + n, x.node(t, n, 1), -1);
-        Due.is(name + ": value of leaf " + n, x.node(t, n, 2), value);
-    }
-
-    private static void dueSplit(String name, LearnedRanker x, int n, int feature, int threshold) {
-        Due.is(name + ": feature of split " + n, x.node(0, n, 0), feature);
-        Due.is(name + ": threshold of split " + n, x.node(0, n, 1), threshold);
-        Due.is(name + ": value of split " + n, x.node(0, n, 2), NONE);
-    }
-
-    private static void dueNothing(String name, LearnedRanker x, int t, int n) {
-        for (int what = 0; what < 3; what++) {
-            Due.is(name + ": no node " + n + " of tree " + t, x.node(t, n, what), NONE);
-        }
-    }
-
     private static void refusals() {
-        LearnedRanker x = judged(new int[] {1, 2}, new int[] {3, 5});
+        LearnedRanker x = Make.judged(new int[] {1, 2}, new int[] {3, 5});
         Due.is("train(2, 1, 1)", x.train(2, 1, 1), 3);
         int[][] wrong = {
             {-1, 1, 1}, {5, 1, 1}, {1, -1, 1}, {1, 3, 1}, {1, 1, 0}, {1, 1, 9}, {1, 1, -1},
@@ -73,7 +45,7 @@ public final class TrainingTest {
         LearnedRanker x = new LearnedRanker();
         Due.is("without samples", x.train(4, 2, 1), 0);
         Due.is("no tree is grown", x.count(3), 0);
-        dueNothing("without samples", x, 0, 0);
+        Due.noNode("without samples", x, 0, 0);
         x.judge(0, 0, 7);
         Due.is("without live samples", x.train(4, 2, 1), 0);
         Due.is("no tree is grown of those", x.count(3), 0);
@@ -84,12 +56,12 @@ public final class TrainingTest {
     }
 
     private static void leafOfThree() {
-        LearnedRanker x = judged(new int[] {5, 5, 5}, new int[] {1, 2, 4});
+        LearnedRanker x = Make.judged(new int[] {5, 5, 5}, new int[] {1, 2, 4});
         Due.is("no feature tells them apart", x.train(1, 2, 1), 1);
-        dueLeaf("7 / 4", x, 0, 0, 7 * UNIT / 4);
+        Due.leaf("7 / 4", x, 0, 0, 7 * UNIT / 4);
         Due.is("rest of the first", x.rest(0), UNIT - 7 * UNIT / 4);
         Due.is("height 0", x.train(1, 0, 1), 1);
-        dueLeaf("height 0", x, 0, 0, 7 * UNIT / 4);
+        Due.leaf("height 0", x, 0, 0, 7 * UNIT / 4);
     }
 
     private static void leafSharesOfAllNumbers() {
@@ -99,42 +71,42 @@ public final class TrainingTest {
             x.document(m - 1, 0);
             x.judge(3, m - 1, 7);
             x.train(1, 0, 1);
-            dueLeaf("SHARE(" + m + ")", x, 0, 0, 7 * m * UNIT / shares[m - 1]);
+            Due.leaf("SHARE(" + m + ")", x, 0, 0, 7 * m * UNIT / shares[m - 1]);
         }
     }
 
     private static void restsAreLeftToTheNextTree() {
-        LearnedRanker x = judged(new int[] {5, 5, 5}, new int[] {1, 2, 4});
+        LearnedRanker x = Make.judged(new int[] {5, 5, 5}, new int[] {1, 2, 4});
         Due.is("four leaves", x.train(4, 2, 1), 4);
         long left = 7 * UNIT;
         for (int t = 0; t < 4; t++) {
-            dueLeaf("a fourth of the sum, tree " + t, x, t, 0, left / 4);
+            Due.leaf("a fourth of the sum, tree " + t, x, t, 0, left / 4);
             left = left - 3 * (left / 4);
         }
         Due.is("the score is the sum", x.score(0, 0), 7 * UNIT / 4 + 7 * UNIT / 16 + 7 * UNIT / 64 + 7 * UNIT / 256);
-        LearnedRanker y = judged(new int[16], new int[] {0, 0, 0, 0, 0, 0, 0, 0, 1, 0, 0, 0, 0, 0, 0, 0});
+        LearnedRanker y = Make.judged(new int[16], new int[] {0, 0, 0, 0, 0, 0, 0, 0, 1, 0, 0, 0, 0, 0, 0, 0});
         y.judge(0, 0, -1);
         y.train(4, 2, 1);
-        dueLeaf("15 of 16 leave a 16th each time: the finest value", y, 3, 0, 1);
+        Due.leaf("15 of 16 leave a 16th each time: the finest value", y, 3, 0, 1);
     }
 
     private static void leastFeatureOfEqualGains() {
-        LearnedRanker x = judged(new int[] {0, 5}, new int[] {0, 6});
+        LearnedRanker x = Make.judged(new int[] {0, 5}, new int[] {0, 6});
         x.query(0, 1);
         x.term(1, 0, 3);
         Due.is("all five features cut alike", x.train(1, 2, 1), 2);
-        dueSplit("least feature", x, 0, 0, 0);
-        dueLeaf("least feature", x, 0, 1, 0);
-        dueLeaf("least feature", x, 0, 2, 6 * UNIT);
+        Due.split("least feature", x, 0, 0, 0, 0);
+        Due.leaf("least feature", x, 0, 1, 0);
+        Due.leaf("least feature", x, 0, 2, 6 * UNIT);
         x.term(0, 0, 1);
         Due.is("features 1 to 4 cut alike", x.train(1, 2, 1), 2);
-        dueSplit("next feature", x, 0, 1, 1);
+        Due.split("next feature", x, 0, 0, 1, 1);
         x.query(0, 0);
         x.train(1, 2, 1);
-        dueSplit("features 2 and 3 cut alike", x, 0, 2, 1);
+        Due.split("features 2 and 3 cut alike", x, 0, 0, 2, 1);
         x.term(0, 4, 2);
         x.train(1, 2, 1);
-        dueSplit("feature 3 alone cuts", x, 0, 3, 0);
+        Due.split("feature 3 alone cuts", x, 0, 0, 3, 0);
         x.query(0, 1);
         x.document(0, 5);
         x.document(1, 5);
@@ -144,118 +116,118 @@ public final class TrainingTest {
         x.term(1, 0, 1);
         x.term(1, 1, 3);
         x.train(1, 2, 1);
-        dueSplit("feature 4 alone cuts", x, 0, 4, 2);
+        Due.split("feature 4 alone cuts", x, 0, 0, 4, 2);
     }
 
     private static void leastThresholdOfEqualGains() {
-        LearnedRanker x = judged(new int[] {3, 0, 2, 1}, new int[] {7, 7, 0, 0});
+        LearnedRanker x = Make.judged(new int[] {3, 0, 2, 1}, new int[] {7, 7, 0, 0});
         Due.is("7, 0, 0, 7 at height 1", x.train(1, 1, 1), 2);
-        dueSplit("threshold 0, not 2", x, 0, 3, 0);
-        dueLeaf("the first", x, 0, 1, 7 * UNIT);
-        dueLeaf("the other three", x, 0, 2, 7 * UNIT / 4);
-        dueNothing("height 1", x, 0, 3);
-        dueNothing("height 1", x, 0, 6);
+        Due.split("threshold 0, not 2", x, 0, 0, 3, 0);
+        Due.leaf("the first", x, 0, 1, 7 * UNIT);
+        Due.leaf("the other three", x, 0, 2, 7 * UNIT / 4);
+        Due.noNode("height 1", x, 0, 3);
+        Due.noNode("height 1", x, 0, 6);
         Due.is("7, 0, 0, 7 at height 2", x.train(1, 2, 1), 3);
-        dueSplit("the second part at height 2", x, 2, 3, 2);
-        dueLeaf("the middle", x, 0, 5, 0);
-        dueLeaf("the last", x, 0, 6, 7 * UNIT);
-        dueNothing("the first part is a leaf", x, 0, 3);
-        dueNothing("the first part is a leaf", x, 0, 4);
+        Due.split("the second part at height 2", x, 0, 2, 3, 2);
+        Due.leaf("the middle", x, 0, 5, 0);
+        Due.leaf("the last", x, 0, 6, 7 * UNIT);
+        Due.noNode("the first part is a leaf", x, 0, 3);
+        Due.noNode("the first part is a leaf", x, 0, 4);
         Due.is("splits", x.count(5), 2);
     }
 
     private static void equalGainIsNotGood() {
-        LearnedRanker x = judged(new int[] {1, 2}, new int[] {4, 4});
+        LearnedRanker x = Make.judged(new int[] {1, 2}, new int[] {4, 4});
         Due.is("equal grades of two", x.train(1, 2, 1), 1);
-        dueLeaf("equal grades of two", x, 0, 0, 4 * UNIT);
-        LearnedRanker y = judged(new int[] {1, 2, 3}, new int[] {0, 0, 0});
+        Due.leaf("equal grades of two", x, 0, 0, 4 * UNIT);
+        LearnedRanker y = Make.judged(new int[] {1, 2, 3}, new int[] {0, 0, 0});
         Due.is("no grades at all", y.train(1, 2, 1), 1);
-        LearnedRanker z = judged(new int[] {0, 1, 2, 3}, new int[] {7, 0, 0, 7});
+        LearnedRanker z = Make.judged(new int[] {0, 1, 2, 3}, new int[] {7, 0, 0, 7});
         Due.is("49 is not above 49", z.train(1, 1, 2), 1);
-        dueLeaf("49 is not above 49", z, 0, 0, 7 * UNIT / 2);
+        Due.leaf("49 is not above 49", z, 0, 0, 7 * UNIT / 2);
     }
 
     private static void unevenSharesMakeEqualGradesSplit() {
-        LearnedRanker x = judged(new int[] {1, 2, 3}, new int[] {4, 4, 4});
+        LearnedRanker x = Make.judged(new int[] {1, 2, 3}, new int[] {4, 4, 4});
         Due.is("equal grades of three", x.train(1, 1, 1), 2);
-        dueSplit("one and two, the least threshold", x, 0, 3, 1);
-        dueLeaf("the one", x, 0, 1, 4 * UNIT);
-        dueLeaf("the two", x, 0, 2, 4 * UNIT);
+        Due.split("one and two, the least threshold", x, 0, 0, 3, 1);
+        Due.leaf("the one", x, 0, 1, 4 * UNIT);
+        Due.leaf("the two", x, 0, 2, 4 * UNIT);
     }
 
     private static void leastPart() {
-        LearnedRanker x = judged(new int[] {0, 1, 2, 3}, new int[] {7, 0, 0, 0});
+        LearnedRanker x = Make.judged(new int[] {0, 1, 2, 3}, new int[] {7, 0, 0, 0});
         x.train(1, 1, 1);
-        dueSplit("least part 1", x, 0, 3, 0);
+        Due.split("least part 1", x, 0, 0, 3, 0);
         Due.is("least part 2 leaves 24.5 above 12.25", x.train(1, 1, 2), 2);
-        dueSplit("least part 2", x, 0, 3, 1);
+        Due.split("least part 2", x, 0, 0, 3, 1);
         Due.is("least part 3", x.train(1, 1, 3), 1);
-        LearnedRanker y = judged(new int[] {0, 1, 2, 3}, new int[] {0, 0, 0, 7});
+        LearnedRanker y = Make.judged(new int[] {0, 1, 2, 3}, new int[] {0, 0, 0, 7});
         Due.is("the second part counts too", y.train(1, 1, 2), 2);
-        dueSplit("the second part counts too", y, 0, 3, 1);
+        Due.split("the second part counts too", y, 0, 0, 3, 1);
         int[] qualities = {0, 0, 0, 0, 0, 0, 0, 0, 1, 1, 1, 1, 1, 1, 1, 1};
         int[] grades = {0, 0, 0, 0, 0, 0, 0, 0, 7, 7, 7, 7, 7, 7, 7, 7};
-        LearnedRanker z = judged(qualities, grades);
+        LearnedRanker z = Make.judged(qualities, grades);
         Due.is("two parts of eight", z.train(1, 2, 8), 2);
         z.judge(0, 0, -1);
         Due.is("seven are too few", z.train(1, 2, 8), 1);
     }
 
     private static void secondPartSplitsAlone() {
-        LearnedRanker x = judged(new int[] {1, 2, 4, 8}, new int[] {0, 2, 5, 7});
+        LearnedRanker x = Make.judged(new int[] {1, 2, 4, 8}, new int[] {0, 2, 5, 7});
         Due.is("a full tree", x.train(1, 2, 1), 4);
-        dueSplit("root", x, 0, 3, 2);
-        dueSplit("first part", x, 1, 3, 1);
-        dueSplit("second part", x, 2, 3, 4);
+        Due.split("root", x, 0, 0, 3, 2);
+        Due.split("first part", x, 0, 1, 3, 1);
+        Due.split("second part", x, 0, 2, 3, 4);
         long[] values = {0, 2, 5, 7};
         for (int n = 3; n < 7; n++) {
-            dueLeaf("full tree", x, 0, n, values[n - 3] * UNIT);
+            Due.leaf("full tree", x, 0, n, values[n - 3] * UNIT);
         }
         Due.is("height 1 of it", x.train(1, 1, 1), 2);
-        dueLeaf("height 1 of it", x, 0, 1, UNIT);
-        dueLeaf("height 1 of it", x, 0, 2, 6 * UNIT);
+        Due.leaf("height 1 of it", x, 0, 1, UNIT);
+        Due.leaf("height 1 of it", x, 0, 2, 6 * UNIT);
     }
 
     private static void greatestGainWins() {
-        LearnedRanker x = judged(new int[] {0, 0, 9, 9}, new int[] {0, 1, 6, 7});
+        LearnedRanker x = Make.judged(new int[] {0, 0, 9, 9}, new int[] {0, 1, 6, 7});
         x.term(1, 0, 1);
         x.term(3, 0, 1);
         Due.is("the size cuts too, but worse", x.train(1, 1, 1), 2);
-        dueSplit("quality gains more", x, 0, 3, 0);
+        Due.split("quality gains more", x, 0, 0, 3, 0);
     }
 
     private static void onlyLiveSamples() {
-        LearnedRanker x = judged(new int[] {1, 2, 3}, new int[] {7, 1, 5});
+        LearnedRanker x = Make.judged(new int[] {1, 2, 3}, new int[] {7, 1, 5});
         x.remove(0);
         x.train(1, 0, 1);
-        dueLeaf("of two live samples", x, 0, 0, 3 * UNIT);
+        Due.leaf("of two live samples", x, 0, 0, 3 * UNIT);
         x.document(0, 0);
         x.train(1, 0, 1);
-        dueLeaf("of three", x, 0, 0, 13 * UNIT / 4);
+        Due.leaf("of three", x, 0, 0, 13 * UNIT / 4);
     }
 
     private static void featuresAtTheTraining() {
-        LearnedRanker x = judged(new int[] {0, 0}, new int[] {2, 6});
+        LearnedRanker x = Make.judged(new int[] {0, 0}, new int[] {2, 6});
         x.term(1, 3, 4);
         x.query(0, 8);
         x.train(1, 1, 1);
         x.query(0, 0);
-        dueSplit("trees stay as they were grown", x, 0, 0, 0);
+        Due.split("trees stay as they were grown", x, 0, 0, 0, 0);
         Due.is("but the score is of the features now", x.score(0, 1), 2 * UNIT);
         x.train(1, 1, 1);
-        dueSplit("a new training sees the features now", x, 0, 2, 0);
+        Due.split("a new training sees the features now", x, 0, 0, 2, 0);
     }
 
     private static void oldTreesGo() {
-        LearnedRanker x = judged(new int[] {1, 2, 4, 8}, new int[] {0, 2, 5, 7});
+        LearnedRanker x = Make.judged(new int[] {1, 2, 4, 8}, new int[] {0, 2, 5, 7});
         x.train(4, 2, 1);
         Due.is("four trees", x.count(3), 4);
         Due.is("one leaf", x.train(1, 0, 1), 1);
         Due.is("one tree", x.count(3), 1);
         Due.is("no splits", x.count(5), 0);
-        dueNothing("old nodes", x, 0, 1);
-        dueNothing("old nodes", x, 0, 6);
-        dueNothing("old trees", x, 1, 0);
+        Due.noNode("old nodes", x, 0, 1);
+        Due.noNode("old nodes", x, 0, 6);
+        Due.noNode("old trees", x, 1, 0);
         for (int d = 0; d < 4; d++) {
             x.judge(0, d, -1);
         }
@@ -265,15 +237,15 @@ public final class TrainingTest {
     }
 
     private static void nodeEdges() {
-        LearnedRanker x = judged(new int[] {1, 2, 4, 8}, new int[] {0, 2, 5, 7});
+        LearnedRanker x = Make.judged(new int[] {1, 2, 4, 8}, new int[] {0, 2, 5, 7});
         x.train(4, 2, 1);
         int[] noTrees = {-1, 4, Integer.MIN_VALUE, Integer.MAX_VALUE};
         for (int t : noTrees) {
-            dueNothing("tree", x, t, 0);
+            Due.noNode("tree", x, t, 0);
         }
         int[] noNodes = {-1, 7, 8, Integer.MIN_VALUE, Integer.MAX_VALUE};
         for (int n : noNodes) {
-            dueNothing("node", x, 0, n);
+            Due.noNode("node", x, 0, n);
         }
         int[] noWhats = {-1, 3, Integer.MIN_VALUE, Integer.MAX_VALUE};
         for (int what : noWhats) {
